@@ -599,11 +599,11 @@ public final class CartPitches {
         }
 
         boolean hasCart(int cart) {
-            return cart >= 0 && cart < cartCount;
+            return cart >= 0 && cart < cartCount && cart < MOST_CARTS;
         }
 
         boolean hasPitch(int pitch) {
-            return pitch >= 0 && pitch < pitchCount;
+            return pitch >= 0 && pitch < pitchCount && pitch < MOST_PITCHES;
         }
 
         int changeSetting(int setting, int value) {
@@ -785,6 +785,9 @@ public final class CartPitches {
 
         /** Whether another cart of the cart's kind has a pitch side by side with the pitch. */
         boolean sameKindBeside(int cart, int pitch) {
+            if (!hasCart(cart)) {
+                return false;
+            }
             for (int beside = pitch - 1; beside <= pitch + 1; beside += 2) {
                 int holder = hasPitch(beside) ? pitches[beside].holder : NONE;
                 if (holder != cart && hasCart(holder) && carts[holder].kind == carts[cart].kind) {
@@ -795,8 +798,10 @@ public final class CartPitches {
         }
 
         void seat(int cart, int pitch) {
-            pitches[pitch].holder = cart;
-            carts[cart].pitch = pitch;
+            if (hasCart(cart) && hasPitch(pitch)) {
+                pitches[pitch].holder = cart;
+                carts[cart].pitch = pitch;
+            }
         }
 
         void unseat(Cart cart) {
@@ -883,6 +888,9 @@ public final class CartPitches {
         }
 
         private static void choosePitch(State state, int cart) {
+            if (!state.hasCart(cart)) {
+                return;
+            }
             Cart drawn = state.carts[cart];
             for (int wish = 0; wish < drawn.wishCount; wish++) {
                 int pitch = drawn.wishAt(wish);
@@ -899,11 +907,12 @@ public final class CartPitches {
             int lowerFree = 0;
             int upperFree = 0;
             for (int place = 0; place < state.drawnCount; place++) {
-                Cart cart = state.carts[state.drawn[place]];
-                int begin = Math.min(lowerFree, upperFree);
-                if (cart.pitch == NONE) {
+                int number = state.drawn[place];
+                if (!state.hasCart(number) || state.carts[number].pitch == NONE) {
                     continue;
                 }
+                Cart cart = state.carts[number];
+                int begin = Math.min(lowerFree, upperFree);
                 if (begin + cart.hours > state.settings[OPEN]) {
                     state.unseat(cart);
                     cart.reason = NO_KITCHEN;
@@ -935,6 +944,9 @@ public final class CartPitches {
         }
 
         private static boolean exchange(State state, int cart, int other) {
+            if (!state.hasCart(cart) || !state.hasCart(other)) {
+                return false;
+            }
             int pitch = state.carts[cart].pitch;
             int otherPitch = state.carts[other].pitch;
             if (!state.hasPitch(pitch) || !state.hasPitch(otherPitch)) {

@@ -175,6 +175,50 @@ public final class PromiseTests {
         for (int what = 0; what < 5; what++) {
             due("money(15, " + what + ")", x.money(15, what), 0);
         }
+        numbersUsedAgain();
+    }
+
+    /** Behind restore() a number is used again that a cart or a pitch had with all that happened to it. */
+    private static void numbersUsedAgain() {
+        CartPitches x = row(2);
+        cart(x, 0, 0);
+        x.save(0);
+        cart(x, 1, 1);
+        cart(x, 2, 1);
+        x.pay(1, 5);
+        x.fine(1, 2);
+        x.pay(2, 5);
+        x.fine(2, 2);
+        x.pitch(9);
+        x.wish(0, 2, NONE, NONE);
+        x.swap(0, 1);
+        x.swap(0, 2);
+        x.days(4);
+        x.check(1);
+        x.check(2);
+        x.fine(1, 9);
+        x.fine(1, 9);
+        due("banned", x.ofCart(1, 10), 18);
+        due("points that stay", x.fine(2, 5) > 0 ? 1 : 0, 1);
+        x.set(5, 200);
+        x.set(3, 30);
+        x.restore(0);
+        due("cart anew", x.cart(3, 4), 1);
+        due("cart anew", x.cart(3, 4), 2);
+        int[] anew = {3, 4, 0, NONE, NONE, NONE, 0, 60, 0, 0, NONE, 0, NONE, NONE, 0, NONE};
+        for (int c = 1; c <= 2; c++) {
+            for (int what = 0; what < 16; what++) {
+                due("ofCart(" + c + ", " + what + ") anew", x.ofCart(c, what), anew[what]);
+            }
+            for (int what = 0; what < 5; what++) {
+                due("money(" + c + ", " + what + ") anew", x.money(c, what), 0);
+            }
+        }
+        due("pitch anew", x.pitch(7), 2);
+        int[] anewPitch = {7, 0, 0, NONE};
+        for (int what = 0; what < 4; what++) {
+            due("ofPitch(2, " + what + ") anew", x.ofPitch(2, what), anewPitch[what]);
+        }
     }
 
     private static void wish() {
@@ -816,6 +860,8 @@ public final class PromiseTests {
         // Who had it on the days 0, 1 and 2: the second one, see lots().
         due("daysOf(0, 3)", x.daysOf(0, 3), 0);
         due("daysOf(1, 3)", x.daysOf(1, 3), 3);
+        due("daysOf(1, 1)", x.daysOf(1, 1), 1);
+        due("daysOf(0, 1)", x.daysOf(0, 1), 0);
         due("together", x.daysOf(0, 60) + x.daysOf(1, 60), 60);
         due("daysOf(0, 0)", x.daysOf(0, 0), BAD_VALUE);
         due("daysOf(0, 61)", x.daysOf(0, 61), BAD_VALUE);
@@ -858,6 +904,37 @@ public final class PromiseTests {
         due("the ninth", y.luckySeed(8, 0), 2);
         due("the third", y.luckySeed(2, 0), 0);
         due("the first, not among 0 to 199", y.luckySeed(0, 0), NONE);
+        luckySeedAtTheEnd();
+    }
+
+    /**
+     * Carts that all wish the one pitch, so that who is drawn first has it: one of them has had it for so many days that the
+     * others have so many tickets. The answer is the least seed for which 75 * seed + 74, left over by all tickets, is its own.
+     */
+    private static int leastSeed(int carts, int tickets, int lucky) {
+        CartPitches x = row(1);
+        x.set(0, 20);
+        for (int i = 0; i < carts; i++) {
+            cart(x, i % 6, 0);
+        }
+        for (int each = 1; each < tickets; each++) {
+            int seed = 0;
+            while ((75 * seed + 74) % 65537 % ((carts - 1) * each + 1) != lucky * each) {
+                seed++;
+            }
+            x.seed(seed);
+            x.days(1);
+        }
+        due("losses of the lucky one", x.ofCart(lucky, 6), 0);
+        due("losses of the others", x.ofCart(lucky + 1, 6), tickets - 1);
+        return x.luckySeed(lucky, 0);
+    }
+
+    private static void luckySeedAtTheEnd() {
+        // (75 * 199 + 74) % (13 * 16 + 1) = 160 = 10 * 16
+        due("the last seed", leastSeed(14, 16, 10), 199);
+        // (75 * 200 + 74) % (14 * 17 + 1) = 17 = 1 * 17
+        due("the seed behind it", leastSeed(15, 17, 1), NONE);
     }
 
     private static void whyNot() {
@@ -1087,7 +1164,108 @@ public final class PromiseTests {
         due("swap again", y.ofCart(0, 12), 1);
     }
 
-    private static void saveAndRestore() {
+    /** One change of each method by itself: its undo brings back all that can be asked. */
+    private static void undoOfEach() {
+        for (int change = 0; change < 13; change++) {
+            CartPitches x = busyRow();
+            long[] before = everything(x);
+            due("change " + change + " is a change", changeBy(x, change) >= 0 ? 1 : 0, 1);
+            due("change " + change + " changes something", java.util.Arrays.equals(before, everything(x)) ? 1 : 0, 0);
+            due("can be undone", x.count(7), 6);
+            due("undo() of change " + change, x.undo(), 5);
+            long[] after = everything(x);
+            for (int i = 0; i < before.length; i++) {
+                due("answer " + i + " behind undo() of change " + change, after[i], before[i]);
+            }
+        }
+    }
+
+    /** A row on which something has happened already, and more is asked for. */
+    private static CartPitches busyRow() {
+        CartPitches x = kitchenRow(6, 2);
+        x.save(0);
+        cart(x, 0, 3, 2);
+        cart(x, 5);
+        x.fine(4, 3);
+        x.pay(4, 70);
+        x.swap(1, 3);
+        x.days(2);
+        x.check(2);
+        x.swap(0, 4);
+        x.swap(3, 2);
+        return x;
+    }
+
+    private static int changeBy(CartPitches x, int change) {
+        switch (change) {
+            case 0: return x.set(0, 5);
+            case 1: return x.seed(7);
+            case 2: return x.pitch(7);
+            case 3: return x.rent(1, 7);
+            case 4: return x.cart(1, 2);
+            case 5: return x.wish(0, 1, 2, 3);
+            case 6: return x.fine(0, 7);
+            case 7: return x.check(3);
+            case 8: return x.swap(2, 1);
+            case 9: return x.pay(0, 7);
+            case 10: return x.days(3);
+            case 11:
+                put(x, "fA9;cB;sBC;wF0;d2;wA9");
+                return x.carryOut();
+            default: return x.restore(0);
+        }
+    }
+
+    /** All that can be asked but for the pad and the history, and what the next days bring. */
+    private static long[] everything(CartPitches x) {
+        long[] all = new long[1000];
+        int next = 0;
+        for (int what = 0; what < 20; what++) {
+            all[next++] = what == 6 || what == 7 ? 0 : x.count(what);
+        }
+        for (int c = 0; c < 8; c++) {
+            for (int what = 0; what < 16; what++) {
+                all[next++] = x.ofCart(c, what);
+                all[next++] = x.money(c, what % 5);
+            }
+            for (int p = 0; p < 5; p++) {
+                all[next++] = x.whyNot(c, p);
+                all[next++] = x.ifWished(c, p);
+            }
+            all[next++] = x.wouldHave(c);
+            all[next++] = x.daysOf(c, 60);
+            all[next++] = x.pointsOn(c, x.count(0) + 89);
+        }
+        for (int p = 0; p < 5; p++) {
+            for (int what = 0; what < 4; what++) {
+                all[next++] = x.ofPitch(p, what);
+            }
+        }
+        return all;
+    }
+
+    private static void save() {
+        CartPitches x = busyRow();
+        due("save(1)", x.save(1), 2);
+        long[] saved = everything(x);
+        for (int change = 0; change < 12; change++) {
+            changeBy(x, change);
+        }
+        put(x, "cA");
+        due("restore(1)", x.restore(1), 2);
+        long[] restored = everything(x);
+        for (int i = 0; i < saved.length; i++) {
+            due("answer " + i + " as it was saved", restored[i], saved[i]);
+        }
+        due("the pad is not restored", x.count(6), 2);
+        due("the history is not restored", x.count(7), 6);
+        due("save(0) of today", x.save(0), 2);
+        due("save(-1)", x.save(-1), BAD_VALUE);
+        due("save(2)", x.save(2), BAD_VALUE);
+        due("save(most)", x.save(MOST_INT), BAD_VALUE);
+    }
+
+    private static void restore() {
         CartPitches x = row(2);
         cart(x, 0, 0);
         due("save(2)", x.save(2), BAD_VALUE);
@@ -1129,6 +1307,27 @@ public final class PromiseTests {
         // An undo behind restore() takes back the state before it.
         x.undo();
         due("today", x.count(0), 4);
+        // The swaps that were asked for are restored, each with both of its carts.
+        CartPitches y = row(4);
+        for (int i = 0; i < 4; i++) {
+            cart(y, i, i);
+        }
+        y.swap(0, 1);
+        y.save(0);
+        y.days(1);
+        y.swap(3, 2);
+        y.restore(0);
+        due("asked for", y.count(5), 1);
+        y.days(1);
+        due("first", y.ofCart(0, 12), 1);
+        due("second", y.ofCart(1, 12), 0);
+        due("third", y.ofCart(2, 12), 2);
+        due("fourth", y.ofCart(3, 12), 3);
+        // A restore() of what was never saved, or of no slot, is no change.
+        int can = y.count(7);
+        due("restore(1)", y.restore(1), NOT_POSSIBLE);
+        due("restore(most)", y.restore(MOST_INT), BAD_VALUE);
+        due("no change", y.count(7), can);
     }
 
     private static void wildValues() {
@@ -1177,13 +1376,15 @@ public final class PromiseTests {
             PromiseTests::lots, PromiseTests::ofCart, PromiseTests::money, PromiseTests::ofPitch, PromiseTests::count, PromiseTests::pointsOn,
             PromiseTests::wouldHave, PromiseTests::ifWished, PromiseTests::firstDay, PromiseTests::daysOf, PromiseTests::luckySeed,
             PromiseTests::whyNot, PromiseTests::put, PromiseTests::wipe, PromiseTests::fault, PromiseTests::carryOut, PromiseTests::undo,
-            PromiseTests::saveAndRestore};
+            PromiseTests::save, PromiseTests::restore};
         for (Runnable test : promises) {
             promise++;
             test.run();
         }
         promise = 8;
         pointsLastLong();
+        promise = 28;
+        undoOfEach();
         promise = 12;
         wishesInLots();
         whoTakesPart();
