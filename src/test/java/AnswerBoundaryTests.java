@@ -18,6 +18,9 @@ public final class AnswerBoundaryTests extends Boundaries {
         test("3 to 5 the wishes (NONE if there are not so many)", () -> {
             CartPitches x = row(10);
             x.cart(0, 1);
+            for (int i = 0; i < 3; i++) {
+                due("wish " + i + " of a new cart", x.ofCart(0, 3 + i), NONE);
+            }
             int[][] wishes = {{NONE, NONE, NONE}, {0, NONE, NONE}, {9, 0, NONE}, {0, 9, 8}, {9, NONE, NONE}};
             for (int[] w : wishes) {
                 x.wish(0, w[0], w[1], w[2]);
@@ -28,6 +31,38 @@ public final class AnswerBoundaryTests extends Boundaries {
             x.wish(0, 1, NONE, 2);
             due("one that does not count", x.ofCart(0, 5), NONE);
         });
+        test("6 its losses", () -> {
+            CartPitches x = row(1);
+            cart(x, 0, 0);
+            cart(x, 1, 0);
+            due("at first", x.ofCart(1, LOSSES), 0);
+            for (int day = 1; day <= 25; day++) {
+                // The second one has as many tickets as it can, the first one has 1: ticket 0 is the first one's.
+                x.seed(seedFor(1 + Math.min(day, 8), 0));
+                x.days(1);
+                due("more than TICKETS, in the end", x.ofCart(1, LOSSES), day);
+                due("of the one that has the pitch", x.ofCart(0, LOSSES), 0);
+            }
+            x.seed(seedFor(9, 1));
+            x.days(1);
+            due("0 again", x.ofCart(1, LOSSES), 0);
+            due("the other's", x.ofCart(0, LOSSES), 1);
+        });
+        test("7 the day up to which its check is valid", () -> {
+            CartPitches x = row(0);
+            x.set(VALID, 1);
+            x.cart(0, 1);
+            x.set(VALID, 200);
+            x.cart(0, 1);
+            due("the least", x.ofCart(0, VALID_UP_TO), 1);
+            due("the most", x.ofCart(1, VALID_UP_TO), 200);
+            x.days(60);
+            due("a day that is past", x.ofCart(0, VALID_UP_TO), 1);
+            x.check(0);
+            due("not by waiting", x.ofCart(0, VALID_UP_TO), 1);
+            x.days(1);
+            due("behind the check", x.ofCart(0, VALID_UP_TO), 260);
+        });
         test("8 whether it waits for a check (1 or 0)", () -> {
             CartPitches x = row(0);
             x.cart(0, 1);
@@ -36,6 +71,19 @@ public final class AnswerBoundaryTests extends Boundaries {
             due("waits", x.ofCart(0, WAITS), 1);
             x.days(1);
             due("was checked", x.ofCart(0, WAITS), 0);
+        });
+        test("9 its points", () -> {
+            CartPitches x = row(0);
+            x.cart(0, 1);
+            x.set(LIMIT, 30);
+            due("at first", x.ofCart(0, POINTS), 0);
+            x.fine(0, 9);
+            x.fine(0, 9);
+            x.fine(0, 9);
+            x.fine(0, 2);
+            due("the most", x.ofCart(0, POINTS), 29);
+            x.fine(0, 1);
+            due("none behind a ban", x.ofCart(0, POINTS), 0);
         });
         test("10 the day up to which it is banned (NONE if it was never banned)", () -> {
             CartPitches x = row(0);
@@ -48,6 +96,16 @@ public final class AnswerBoundaryTests extends Boundaries {
             due("banned", x.ofCart(0, BANNED_UP_TO), 1);
             x.days(60);
             due("the ban is over", x.ofCart(0, BANNED_UP_TO), 1);
+        });
+        test("11 the days on which it had a pitch", () -> {
+            CartPitches x = kitchens(6, 6, 6, 1);
+            due("at first", x.ofCart(0, DAYS), 0);
+            x.days(1);
+            due("had one", x.ofCart(0, DAYS), 1);
+            due("lost it for want of a kitchen", x.ofCart(2, DAYS), 0);
+            wish(x, 0);
+            x.days(60);
+            due("the days before stay", x.ofCart(0, DAYS), 1);
         });
         test("12 the pitch that it had on the last day that passed (NONE if it had none)", () -> {
             CartPitches x = row(10);

@@ -80,7 +80,7 @@ abstract class Boundaries {
 
     /** A call that is a change records the state before it; when it is refused it records nothing. */
     static void dueChange(CartPitches x, Call change, Call refused) {
-        while (x.count(UNDOABLE) > 5) {
+        if (x.count(UNDOABLE) > 5) {
             x.undo();
         }
         List<Long> before = toldOfTheRow(x);

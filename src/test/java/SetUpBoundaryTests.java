@@ -104,6 +104,19 @@ public final class SetUpBoundaryTests extends Boundaries {
             due("beside the one before", x.ofCart(1, HAS), NONE);
             due("not beside the first", x.ofCart(2, HAS), 2);
         });
+        test("Adds a pitch", () -> {
+            // Its number is used again behind restore() and undo(): nothing of the pitch that is gone may stay.
+            CartPitches x = row(1);
+            x.save(0);
+            x.pitch(7);
+            cart(x, 0, 1);
+            x.days(3);
+            due("days of the one that will be gone", x.ofPitch(1, TAKEN), 3);
+            x.restore(0);
+            dueNewPitch(x, 9);
+            x.undo();
+            dueNewPitch(x, 0);
+        });
         test("This is a change.", () -> dueChange(busyRow(), x -> x.pitch(9), x -> x.pitch(-1)));
         test("rent: 0 to 20000", () -> {
             CartPitches x = new CartPitches();
@@ -135,6 +148,14 @@ public final class SetUpBoundaryTests extends Boundaries {
             due("its rent", x.ofPitch(9, RENT), 3);
             due("the eleventh", x.pitch(0), TOO_MANY);
         });
+    }
+
+    private static void dueNewPitch(CartPitches x, int rent) {
+        due("pitch()", x.pitch(rent), 1);
+        int[] fresh = {rent, 0, 0, NONE};
+        for (int what = 0; what < 4; what++) {
+            due("ofPitch(1, " + what + ")", x.ofPitch(1, what), fresh[what]);
+        }
     }
 
     private static void rent() {
@@ -178,6 +199,38 @@ public final class SetUpBoundaryTests extends Boundaries {
 
     private static void carts() {
         heading("Promise 6: cart");
+        test("Adds a cart.", () -> {
+            // Its number is used again behind restore() and undo(): nothing of the cart that is gone may stay.
+            CartPitches x = pairs(2);
+            x.save(0);
+            for (int gone = 2; gone < 4; gone++) {
+                cart(x, gone, gone - 2, 3 - gone);
+                x.pay(gone, 9);
+                x.fine(gone, 9);
+                x.fine(gone, 9);
+                x.fine(gone, 2);
+            }
+            wish(x, 0);
+            wish(x, 1);
+            x.set(BAN, 1);
+            x.days(40);
+            x.swap(2, 3);
+            x.days(10);
+            wish(x, 3, 0);
+            wish(x, 2, 0);
+            x.days(2);
+            x.check(2);
+            x.check(3);
+            due("losses of those that will be gone", x.ofCart(2, LOSSES) + x.ofCart(3, LOSSES) > 0 ? 1 : 0, 1);
+            due("swaps of those that will be gone", x.money(2, FOR_SWAPS), 200);
+            x.restore(0);
+            dueNewCart(x, 4, 3);
+            x.undo();
+            dueNewCart(x, 0, 6);
+            cart(x, 5);
+            due("days", x.days(1), 1);
+            due("a day without wishes", x.ofCart(2, REASON), 1);
+        });
         test("This is a change.", () -> dueChange(busyRow(), x -> x.cart(0, 1), x -> x.cart(6, 1)));
         test("kind: 0 to 5", () -> {
             CartPitches x = new CartPitches();
@@ -224,6 +277,17 @@ public final class SetUpBoundaryTests extends Boundaries {
             due("its kind", x.ofCart(15, 0), 3);
             due("the seventeenth", x.cart(0, 1), TOO_MANY);
         });
+    }
+
+    private static void dueNewCart(CartPitches x, int kind, int hours) {
+        due("cart()", x.cart(kind, hours), 2);
+        int[] fresh = {kind, hours, 0, NONE, NONE, NONE, 0, 60, 0, 0, NONE, 0, NONE, NONE, 0, NONE};
+        for (int what = 0; what < 16; what++) {
+            due("ofCart(2, " + what + ")", x.ofCart(2, what), fresh[what]);
+        }
+        for (int what = 0; what < 5; what++) {
+            due("money(2, " + what + ")", x.money(2, what), 0);
+        }
     }
 
     public static void main(String[] args) {

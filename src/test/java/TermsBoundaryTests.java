@@ -300,6 +300,25 @@ public final class TermsBoundaryTests extends Boundaries {
             x.days(1);
             due("lapsed for every LAPSE", x.ofCart(0, POINTS), 1);
         });
+        test("Points are kept with the day on which they were given.", () -> {
+            CartPitches x = row(0);
+            x.cart(0, 1);
+            x.set(LIMIT, 30);
+            x.set(LAPSE, 3);
+            for (int day = 0; day < 5; day++) {
+                x.fine(0, 1 + day);
+                x.fine(0, 1);
+                x.days(1);
+            }
+            // 2, 3, 4, 5 and 6 points on the days 0 to 4.
+            due("of the days 3 and 4", x.ofCart(0, POINTS), 11);
+            due("of the day 4", x.pointsOn(0, 6), 6);
+            due("of none", x.pointsOn(0, 7), 0);
+            x.set(LAPSE, 4);
+            due("of the days 2 to 4", x.ofCart(0, POINTS), 15);
+            x.set(LAPSE, 6);
+            due("of all days", x.ofCart(0, POINTS), 20);
+        });
         test("since it was banned last", () -> {
             CartPitches x = row(1);
             x.cart(0, 1);
@@ -588,6 +607,31 @@ public final class TermsBoundaryTests extends Boundaries {
     private static void kitchens() {
         heading("Terms: A day, 3. Kitchens");
         test("There are 2 kitchens.", () -> hours(kitchens(6, 6, 6, 1), 0, 0, NONE));
+        test("In the order in which they were drawn, those who got a pitch take their hours", () -> {
+            int[][] orders = {{0, 1, 2}, {0, 2, 1}, {1, 0, 2}, {1, 2, 0}, {2, 0, 1}, {2, 1, 0}};
+            for (int[] order : orders) {
+                CartPitches x = kitchens(6, 6, 6, 6);
+                cart(x, 4);
+                x.seed(seedForOrder(order));
+                x.days(1);
+                due("drawn first", x.ofCart(order[0], HOUR), 0);
+                due("drawn second", x.ofCart(order[1], HOUR), 0);
+                due("drawn last", x.ofCart(order[2], HOUR), NONE);
+                due("not drawn", x.ofCart(3, HOUR), NONE);
+            }
+            // Who got no pitch takes no hours.
+            CartPitches y = row(3);
+            int[] pitches = {0, 0, 1, 2};
+            for (int i = 0; i < 4; i++) {
+                wish(y, y.cart(i, 6), pitches[i]);
+            }
+            y.set(OPEN, 6);
+            y.seed(seedForOrder(0, 1, 2, 3));
+            y.days(1);
+            due("drawn second, without a pitch", y.ofCart(1, HOUR), NONE);
+            due("drawn third", y.ofCart(2, HOUR), 0);
+            due("drawn last", y.ofCart(3, HOUR), NONE);
+        });
         test("as many as they need, one behind the other, in one kitchen, all free", () -> {
             hours(kitchens(9, 6, 6, 4, 3, 3, 1), 0, 0, NONE, 6, 6, NONE);
             hours(kitchens(14, 5, 6, 5, 5, 4, 3, 3), 0, 0, 5, 6, 10, 11, NONE);
@@ -933,6 +977,18 @@ public final class TermsBoundaryTests extends Boundaries {
             put(x, "fA1;fA9");
             due("carryOut()", x.carryOut(), 2);
             due("points", x.ofCart(0, POINTS), 10);
+        });
+        test("\"c\": check(); \"s\": swap()", () -> {
+            CartPitches x = pairs(2);
+            put(x, "cB;sBA");
+            due("carryOut()", x.carryOut(), 2);
+            due("waits", x.ofCart(1, WAITS), 1);
+            due("waits not", x.ofCart(0, WAITS), 0);
+            due("asked for", x.count(SWAPS), 1);
+            put(x, "cB");
+            due("waits already", x.carryOut(), 0);
+            put(x, "sAA");
+            due("both are the same", x.carryOut(), 0);
         });
         test("\"d\": so many days()", () -> {
             CartPitches x = row(1);

@@ -27,6 +27,23 @@ public final class UndoBoundaryTests extends Boundaries {
                 dueAll("undo() of change " + change, toldOfTheRow(x), before);
             }
         });
+        test("is as it was before it", () -> {
+            // Each swap with both of its carts, in their order.
+            CartPitches x = pairs(4);
+            x.swap(3, 2);
+            x.swap(2, 1);
+            x.days(1);
+            x.swap(0, 1);
+            x.undo();
+            x.undo();
+            due("asked for", x.count(SWAPS), 2);
+            due("would have", x.wouldHave(1), 3);
+            x.days(1);
+            due("the first", x.ofCart(3, HAS), 2);
+            due("the second", x.ofCart(2, HAS), 1);
+            due("the third", x.ofCart(1, HAS), 3);
+            due("done", x.count(SWAPPED), 2);
+        });
         test("except the pad", () -> {
             CartPitches x = pairs(2);
             put(x, "cA");
@@ -43,7 +60,7 @@ public final class UndoBoundaryTests extends Boundaries {
             x.undo();
             due("the pad stays empty", x.count(PAD), 0);
         });
-        test("except the slots", () -> {
+        test("the slots", () -> {
             CartPitches x = pairs(2);
             x.days(5);
             x.save(0);
@@ -136,7 +153,7 @@ public final class UndoBoundaryTests extends Boundaries {
             int kept = 0;
             int top = 0;
             values[0] = 1;
-            for (int step = 0; step < 60; step++) {
+            for (int step = 0; step < 18; step++) {
                 int changes = 1 + step % 9;
                 for (int i = 0; i < changes; i++) {
                     top++;
@@ -206,6 +223,21 @@ public final class UndoBoundaryTests extends Boundaries {
                 due("the pad", x.count(PAD), 2);
                 due("the history", x.count(UNDOABLE), 6);
             }
+        });
+        test("Saves everything", () -> {
+            CartPitches x = pairs(4);
+            x.swap(3, 2);
+            x.swap(2, 1);
+            x.save(1);
+            x.days(1);
+            x.swap(0, 1);
+            x.restore(1);
+            due("asked for", x.count(SWAPS), 2);
+            x.days(1);
+            due("the first", x.ofCart(3, HAS), 2);
+            due("the second", x.ofCart(2, HAS), 1);
+            due("the third", x.ofCart(1, HAS), 3);
+            due("done", x.count(SWAPPED), 2);
         });
         test("and overwrites what was saved there", () -> {
             CartPitches x = pairs(1);

@@ -26,6 +26,20 @@ public final class WhatIfBoundaryTests extends Boundaries {
 
     private static void wouldHave() {
         heading("Promise 18: wouldHave");
+        test("if the day passed now", () -> {
+            CartPitches x = pairs(2);
+            wish(x, 1);
+            x.set(VALID, 1);
+            cart(x, 2, 1);
+            for (int day = 0; day < 4; day++) {
+                int would = x.wouldHave(2);
+                due("on the day " + day, would, day <= 1 ? 1 : NONE);
+                x.days(1);
+                due("as it came on the day " + day, x.ofCart(2, HAS), would);
+            }
+            x.check(2);
+            due("behind another change", x.wouldHave(2), 1);
+        });
         test("Returns the pitch", () -> {
             CartPitches x = row(10);
             cart(x, 0, 0);
@@ -109,6 +123,29 @@ public final class WhatIfBoundaryTests extends Boundaries {
 
     private static void firstDay() {
         heading("Promise 20: firstDay");
+        test("if only days passed", () -> {
+            CartPitches x = pairs(2);
+            x.set(VALID, 1);
+            x.set(CHECKS, 1);
+            for (int i = 2; i < 6; i++) {
+                wish(x, cart(x, i), 1);
+            }
+            wish(x, 1);
+            x.days(2);
+            for (int i = 2; i < 6; i++) {
+                due("without a check", x.firstDay(i), NONE);
+                x.check(i);
+            }
+            for (int i = 2; i < 6; i++) {
+                wish(x, 2);
+                wish(x, 3);
+                wish(x, 4);
+                wish(x, 5);
+                wish(x, i, 1);
+                due("by the checks that are asked for", x.firstDay(i), i - 2);
+                due("days of it", x.daysOf(i, 60), 2);
+            }
+        });
         test("Returns how many days from now (0: today)", () -> {
             CartPitches x = pairs(2);
             x.set(LIMIT, 3);
