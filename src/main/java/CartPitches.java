@@ -347,13 +347,16 @@ public final class CartPitches {
         }
         history.prepare(now);
         int done = 0;
-        int end = 0;
-        for (int begin = 0; begin < pad.length; begin = end + 1) {
-            end = pad.endOfOrder(begin);
+        int begin = 0;
+        for (int end = 0; end <= pad.length; end++) {
+            if (!pad.endsOrder(end)) {
+                continue;
+            }
             if (performOrder(begin, end) < 0) {
                 break;
             }
             done++;
+            begin = end + 1;
         }
         pad.length = 0;
         return recorded(done);
@@ -529,8 +532,11 @@ public final class CartPitches {
         /** The points given up to today that have not lapsed on a day from today on. */
         int pointsLeft(int day, int today, int lapse) {
             int left = 0;
-            for (int given = Math.max(0, day - lapse + 1); given <= today; given++) {
-                left += points[given % KEPT_DAYS];
+            for (int back = 0; back < lapse && back < KEPT_DAYS; back++) {
+                int given = day - back;
+                if (given >= 0 && given <= today) {
+                    left += points[given % KEPT_DAYS];
+                }
             }
             return left;
         }
@@ -1119,14 +1125,9 @@ public final class CartPitches {
             return sign >= '0' && sign <= '9';
         }
 
-        /** The index of the ';' behind an order, or the length. */
-        int endOfOrder(int begin) {
-            for (int index = begin; index < length; index++) {
-                if (signAt(index) == ';') {
-                    return index;
-                }
-            }
-            return length;
+        /** Whether an order ends before the index: a ';' stands there, or the text is over. */
+        boolean endsOrder(int index) {
+            return index == length || signAt(index) == ';';
         }
 
         int wishAt(int index, int end) {

@@ -125,6 +125,21 @@ public final class FaceTests {
         }
     }
 
+    /** Rule 9: each loop is a 'for' whose own line tells that its counter goes up or down by a constant against a bound. */
+    private static void loops() throws Exception {
+        String[] lines = Files.readString(Path.of("src/main/java/CartPitches.java")).split("\n");
+        Pattern counted = Pattern.compile("for \\(int (\\w+) = [^;]+; [^;]*\\b\\1 [<>]=? [^;]+; \\1(\\+\\+|--| \\+= \\d+)\\) \\{");
+        int loops = 0;
+        for (int i = 0; i < lines.length; i++) {
+            String line = lines[i].trim();
+            if (line.matches("(for|while|do)\\b.*|.*\\bwhile \\(.*") && !line.startsWith("//") && !line.startsWith("/*")) {
+                loops++;
+                due("line " + (i + 1) + " is a counted loop", counted.matcher(line).matches(), true);
+            }
+        }
+        due("there are loops", loops > 20, true);
+    }
+
     /** All is made in the constructor: no call makes an object. */
     private static void room() {
         com.sun.management.ThreadMXBean bean = (com.sun.management.ThreadMXBean) ManagementFactory.getThreadMXBean();
@@ -166,6 +181,7 @@ public final class FaceTests {
         face();
         classesInside();
         source();
+        loops();
         room();
         System.out.println(wrong == 0 ? "the face and the rules hold" : wrong + " faults");
         if (wrong != 0) {
